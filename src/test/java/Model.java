@@ -12,7 +12,7 @@ final class Model {
     static final int INVALID = -1002;
     static final int NONE = -1003;
 
-    private static final List<List<BitSet>> ELEMENTARY = elementaryForms();
+    private static final List<List<BitSet>> LEFT_OUT = leftOut();
 
     private final List<int[]> program = new ArrayList<>();
     private final BitSet[][] results = new BitSet[4][];
@@ -40,48 +40,41 @@ final class Model {
         return states;
     }
 
-    /** For each way the forms whose meets are all its forms; way 0 needs a single state left out. */
-    private static List<List<BitSet>> elementaryForms() {
+    /** For each way what its elementary forms leave out; the others are meets of those forms. */
+    private static List<List<BitSet>> leftOut() {
         List<List<BitSet>> all = new ArrayList<>();
         for (int way = 0; way < 4; way++) {
             all.add(new ArrayList<>());
         }
         for (int state = 0; state < 512; state++) {
-            int left = state;
-            all.get(0).add(statesWith(s -> s != left));
+            int single = state;
+            all.get(0).add(statesWith(s -> s == single));
         }
         for (int v = 0; v < 3; v++) {
             int variable = v;
             for (int x = -1; x <= 8; x++) {
                 int bound = x;
-                all.get(1).add(statesWith(s -> valueOf(s, variable) != bound));
-                all.get(2).add(statesWith(s -> valueOf(s, variable) <= bound));
-                all.get(2).add(statesWith(s -> valueOf(s, variable) >= bound));
+                all.get(1).add(statesWith(s -> valueOf(s, variable) == bound));
+                all.get(2).add(statesWith(s -> valueOf(s, variable) > bound));
+                all.get(2).add(statesWith(s -> valueOf(s, variable) < bound));
             }
         }
         for (int ab = 0; ab < 16; ab++) {
             int a = ab / 4;
             int b = ab % 4;
-            for (int x = -8; x <= 8; x++) {
+            for (int x = -8; a != b && x <= 8; x++) {
                 int bound = x;
-                if (a != b) {
-                    all.get(3).add(statesWith(s -> valueOf(s, a) - valueOf(s, b) <= bound));
-                }
+                all.get(3).add(statesWith(s -> valueOf(s, a) - valueOf(s, b) > bound));
             }
         }
         return all;
     }
 
     private static BitSet hull(int way, BitSet states) {
-        if (way == 0) {
-            return states;
-        }
         BitSet meet = statesWith(s -> true);
-        for (BitSet form : ELEMENTARY.get(way)) {
-            BitSet outside = (BitSet) states.clone();
-            outside.andNot(form);
-            if (outside.isEmpty()) {
-                meet.and(form);
+        for (BitSet outside : LEFT_OUT.get(way)) {
+            if (!outside.intersects(states)) {
+                meet.andNot(outside);
             }
         }
         return meet;

@@ -171,6 +171,11 @@ public final class PromisesTest {
         due("4 place 0 is left", x.count(0, 0), 1);
         due("4 emit anew", x.emit(SET, 2, 0, 7), 1);
         due("4 emit anew shows", x.has(3, 1, 64 * 7), true);
+        AbstractValues loop = program(st(COPY, 0, 0, 1), st(FORK, 0, 0, 0));
+        counts("4 the last one goes back", loop, 0, 8, 8, 8, 8);
+        loop.retract();
+        counts("4 and has been taken away", loop, 0, 1, 1, 1, 1);
+        counts("4 and has been taken away", loop, 1, 1, 1, 1, 1);
     }
 
     private static void promise5Valid() {
@@ -221,8 +226,12 @@ public final class PromisesTest {
         due("SET", set.has(0, 2, 8 * 3), true);
         counts("SET", set, 2, 1, 1, 1, 1);
         due("COPY of another", program(st(SET, 1, 0, 3), st(COPY, 2, 1, 4)).has(0, 2, 8 * 3 + 64 * 7), true);
-        counts("COPY above 7", program(st(SET, 1, 0, 3), st(COPY, 2, 1, 5)), 2, 0, 0, 0, 0);
-        counts("COPY below 0", program(st(SET, 1, 0, 3), st(COPY, 2, 1, -4)), 2, 0, 0, 0, 0);
+        AbstractValues above = program(st(SET, 1, 0, 3), st(COPY, 2, 1, 5));
+        counts("COPY above 7 ends", above, 2, 0, 0, 0, 0);
+        counts("COPY above 7 touches no other place", above, 1, 1, 1, 1, 1);
+        AbstractValues below = program(st(SET, 1, 0, 3), st(COPY, 2, 1, -4));
+        counts("COPY below 0 ends", below, 2, 0, 0, 0, 0);
+        counts("COPY below 0 touches no other place", below, 1, 1, 1, 1, 1);
         due("COPY of itself", program(st(SET, 1, 0, 3), st(COPY, 1, 1, -3)).has(0, 2, 0), true);
         due("COPY of 0", program(st(SET, 1, 0, 3), st(COPY, 1, 3, 6)).has(0, 2, 8 * 6), true);
         counts("COPY of any", program(st(ANY, 0, 0, 0), st(COPY, 1, 0, 5)), 2, 3, 9, 9, 3);
