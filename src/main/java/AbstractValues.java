@@ -124,37 +124,17 @@ public final class AbstractValues {
         if (!isVariable(v)) {
             return BAD;
         }
-        int refusal = refusalOf(way, i);
-        if (refusal != NOT_REFUSED) {
-            return refusal;
-        }
-        workOut(way);
         int greatest = greatestOf(way, i, ZERO * 4 + v);
-        return greatest == NONE ? NONE : -greatest;
+        // The codes lie below every difference: one of them is answered as it is.
+        return greatest <= BAD ? greatest : -greatest;
     }
 
     public int highest(int way, int i, int v) {
-        if (!isVariable(v)) {
-            return BAD;
-        }
-        int refusal = refusalOf(way, i);
-        if (refusal != NOT_REFUSED) {
-            return refusal;
-        }
-        workOut(way);
-        return greatestOf(way, i, v * 4 + ZERO);
+        return isVariable(v) ? greatestOf(way, i, v * 4 + ZERO) : BAD;
     }
 
     public int most(int way, int i, int ab) {
-        if (!isPair(ab)) {
-            return BAD;
-        }
-        int refusal = refusalOf(way, i);
-        if (refusal != NOT_REFUSED) {
-            return refusal;
-        }
-        workOut(way);
-        return greatestOf(way, i, ab);
+        return isPair(ab) ? greatestOf(way, i, ab) : BAD;
     }
 
     public boolean exact(int way, int i) {
@@ -261,8 +241,14 @@ public final class AbstractValues {
         return size;
     }
 
-    private int greatestOf(int way, int place, int ab) {
-        int start = way * SPOTS + place * STATES;
+    /** The greatest difference of a pair in the states of a form, or the code that refuses to tell. */
+    private int greatestOf(int way, int i, int ab) {
+        int refusal = refusalOf(way, i);
+        if (refusal != NOT_REFUSED) {
+            return refusal;
+        }
+        workOut(way);
+        int start = way * SPOTS + i * STATES;
         int greatest = NONE;
         for (int state = 0; state < STATES; state++) {
             int found = value(state, ab / 4) - value(state, ab % 4);
