@@ -6,7 +6,7 @@ import java.lang.reflect.Modifier;
 import java.nio.file.Files;
 import java.nio.file.Path;
 import java.util.Arrays;
-import java.util.HashSet;
+import java.util.List;
 import java.util.Set;
 import java.util.TreeSet;
 
@@ -20,6 +20,9 @@ public final class FaceTest {
         "boolean valid[]", "int count[int, int]", "boolean has[int, int, int]", "int lowest[int, int, int]",
         "int highest[int, int, int]", "int most[int, int, int]", "boolean exact[int, int]",
         "int unreached[int]", "boolean level[int]"));
+
+    private static final List<String> PUBLIC_NAMES = Arrays.asList("emit", "replace", "retract", "valid", "count", "has",
+        "lowest", "highest", "most", "exact", "unreached", "level");
 
     private static final String[] FORBIDDEN = {
         "import", "package", "throw", "throws", "try", "catch", "synchronized", "assert", "instanceof",
@@ -69,9 +72,9 @@ public final class FaceTest {
             Check.due("static and no constant: " + f, isStatic && !isConstant, false);
         }
         Check.due("at most forty fields", fields <= 40, true);
-        Set<String> names = new HashSet<>();
         for (Method m : c.getDeclaredMethods()) {
-            Check.due("the only one of its name: " + m, names.add(m.getName()), true);
+            boolean isPrivate = Modifier.isPrivate(m.getModifiers());
+            Check.due("private with a public name: " + m, isPrivate && PUBLIC_NAMES.contains(m.getName()), false);
             Check.due("at most seven parameters: " + m, m.getParameterCount() <= 7, true);
             Check.due("answers no array: " + m, m.getReturnType().isArray(), false);
             for (Class<?> type : m.getParameterTypes()) {
@@ -87,15 +90,46 @@ public final class FaceTest {
             String pattern = Character.isLetter(word.charAt(0)) ? "\\b" + word + "\\b" : word;
             Check.due("uses of " + word, text.split(pattern, -1).length - 1, 0);
         }
-        String field = "private final (int|boolean)\\[\\] \\w+ = new (int|boolean)\\[[A-Z_]+\\];";
-        int made = text.split("\\bnew\\b", -1).length;
-        Check.due("arrays made in fields alone", text.split(field, -1).length, made);
+        String outsideConstructor = text.replaceAll("(?s)public AbstractValues\\(\\).*?\n    \\}", " ");
+        String array = "\\bprivate (final )?\\w+\\[\\] \\w+ = new \\w+\\[([A-Z][A-Z0-9_]*|[1-9][0-9]*)\\];";
+        int made = outsideConstructor.split("\\bnew\\b", -1).length;
+        Check.due("arrays made in fields or the constructor", outsideConstructor.split(array, -1).length, made);
+    }
+
+    /**
+     * The level shows in no answer, so that a new object has level 1 (promise 1) and that a refused k
+     * leaves the level alone (promise 13) can only be seen inside. How it is held is free: under another
+     * name it is not looked at.
+     */
+    private static void level() throws IllegalAccessException {
+        for (Field f : AbstractValues.class.getDeclaredFields()) {
+            if (f.getName().equals("workLevel")) {
+                f.setAccessible(true);
+                levelIn(f);
+                return;
+            }
+        }
+        System.out.println("no field workLevel: the level has not been looked at");
+    }
+
+    private static void levelIn(Field f) throws IllegalAccessException {
+        AbstractValues x = new AbstractValues();
+        Check.due("the level of a new object", f.getInt(x), 1);
+        for (int k : new int[] {0, 1, 0}) {
+            x.level(k);
+            Check.due("after level(" + k + ")", f.getInt(x), k);
+            for (int far : Check.outside(0, 1)) {
+                x.level(far);
+                Check.due("after level(" + far + ") at level " + k, f.getInt(x), k);
+            }
+        }
     }
 
     public static void main(String[] args) throws IllegalAccessException, IOException {
         face();
         members();
         source();
+        level();
         Check.finish();
     }
 }

@@ -1,62 +1,9 @@
 /** For each promise of the document ordinary calls, the edges that it names, and wrong input. */
-public final class PromisesTest {
-    private static final int BAD = -1000;
-    private static final int FULL = -1001;
-    private static final int INVALID = -1002;
-    private static final int NONE = -1003;
-
-    private static final int SET = 0;
-    private static final int COPY = 1;
-    private static final int ANY = 2;
-    private static final int LESS = 3;
-    private static final int JUMP = 4;
-    private static final int FORK = 5;
-    private static final int END = 6;
-
-    private static final int LEAST = Integer.MIN_VALUE;
-    private static final int GREATEST = Integer.MAX_VALUE;
-    private static final int[] NO_WAYS = {LEAST, -1, 4, GREATEST};
-
-    private static void due(String what, long got, long want) {
-        Check.due(what, got, want);
-    }
-
-    private static void due(String what, boolean got, boolean want) {
-        Check.due(what, got, want);
-    }
-
-    private static AbstractValues program(int[]... statements) {
-        AbstractValues x = new AbstractValues();
-        for (int[] s : statements) {
-            if (x.emit(s[0], s[1], s[2], s[3]) < 0) {
-                due("the test's own statement " + java.util.Arrays.toString(s), false, true);
-            }
-        }
-        return x;
-    }
-
-    private static int[] st(int op, int a, int b, int c) {
-        return new int[] {op, a, b, c};
-    }
-
-    private static void counts(String what, AbstractValues x, int i, int... want) {
-        for (int way = 0; way < want.length; way++) {
-            due(what + ": count(" + way + ", " + i + ")", x.count(way, i), want[way]);
-        }
-    }
-
+public final class PromisesTest extends Check {
     /** Variable 0 counts up from 0 in steps of 2, so its values leave gaps; variable 1 runs along. */
     private static AbstractValues steps() {
         return program(st(FORK, 0, 0, 5), st(LESS, 0, 3, 4), st(COPY, 0, 0, 2), st(COPY, 1, 1, 1),
             st(JUMP, 0, 0, 0));
-    }
-
-    private static AbstractValues invalidProgram() {
-        return program(st(JUMP, 0, 0, 2));
-    }
-
-    private static AbstractValues endedProgram() {
-        return program(st(END, 0, 0, 0));
     }
 
     private static void promise1NewObject() {
@@ -457,6 +404,6 @@ public final class PromisesTest {
         promise12Unreached();
         promise13Level();
         promise14Order();
-        Check.finish();
+        finish();
     }
 }
