@@ -21,8 +21,8 @@ public final class FaceTest {
         "int highest[int, int, int]", "int most[int, int, int]", "boolean exact[int, int]",
         "int unreached[int]", "boolean level[int]"));
 
-    private static final List<String> PUBLIC_NAMES = Arrays.asList("emit", "replace", "retract", "valid", "count", "has",
-        "lowest", "highest", "most", "exact", "unreached", "level");
+    private static final List<String> PUBLIC_NAMES = Arrays.asList("emit", "replace", "retract", "valid", "count",
+        "has", "lowest", "highest", "most", "exact", "unreached", "level");
 
     private static final String[] FORBIDDEN = {
         "import", "package", "throw", "throws", "try", "catch", "synchronized", "assert", "instanceof",

@@ -303,7 +303,8 @@ public final class PromisesTest extends Check {
     }
 
     private static void promise11Exact() {
-        AbstractValues x = program(st(ANY, 0, 0, 0), st(COPY, 1, 0, 2), st(FORK, 0, 0, 4), st(SET, 0, 0, 0), st(END, 0, 0, 0));
+        AbstractValues x = program(st(ANY, 0, 0, 0), st(COPY, 1, 0, 2), st(FORK, 0, 0, 4), st(SET, 0, 0, 0),
+            st(END, 0, 0, 0));
         int[][] want = {{1, 1, 1, 1, 1, 1}, {1, 1, 0, 0, 0, 1}, {1, 1, 0, 0, 0, 1}, {1, 1, 1, 1, 0, 1}};
         for (int way = 0; way < 4; way++) {
             for (int i = 0; i <= 5; i++) {

@@ -217,7 +217,9 @@ public final class TermsEdgesTest extends Check {
 
     /** "(The empty set is a form in all ways.)" */
     private static void emptySetIsAForm() {
-        int[][] ends = {st(END, 0, 0, 0), st(JUMP, 0, 0, 0), st(COPY, 1, 2, -1), st(COPY, 2, 3, -7), st(LESS, 0, 1, -1)};
+        int[][] ends = {
+            st(END, 0, 0, 0), st(JUMP, 0, 0, 0), st(COPY, 1, 2, -1), st(COPY, 2, 3, -7), st(LESS, 0, 1, -1),
+        };
         for (int[] end : ends) {
             for (int way = 0; way < 4; way++) {
                 String what = "behind op " + end[0] + " in way " + way;
